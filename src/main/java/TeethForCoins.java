@@ -491,9 +491,8 @@ public final class TeethForCoins {
         return Math.min(1 << teeth.count, balances.length);
     }
 
-    /** Puts at every set of TEETH what it is worth, where TEETH of the change count against the others. */
+    /** Puts at every set of TEETH what it is worth, where TEETH of the change count against the others; none is 0. */
     private void weighSets(int change) {
-        balances[0] = 0;
         for (int tooth = 0; tooth < teeth.count; tooth++) {
             int bit = 1 << tooth;
             int worth = (change & bit) == 0 ? worthOf(tooth) : -worthOf(tooth);

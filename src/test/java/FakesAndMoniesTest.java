@@ -39,6 +39,7 @@ public final class FakesAndMoniesTest {
         doubt(new int[] {5, 3, 0, 6, 1}, 1, 1);
         doubt(new int[] {1, 0, 0, 4, 0}, 1, 10);
         doubt(new int[] {1, 10, 10, 4, 4}, 1, 10);
+        doubt(new int[] {1, 1, 0, 1, 1}, 1, 1);
     }
 
     private static void doubtIsRefused() {
@@ -142,8 +143,11 @@ public final class FakesAndMoniesTest {
 
     private static void ring() {
         TeethForCoins x = new TeethForCoins();
+        CHECK.due("28 at first, not asked for the gain", x.ringAt(1), 1);
+        CHECK.due("28 at first, not asked for the gain", x.ringAt(2), -9);
         best("at first", x, 1, 1, 0, 1);
         x.rate(3, 2, 6, 4);
+        CHECK.due("28 not asked for the gain", x.ringAt(0), 2);
         best("of two", x, 3, 2, 2, 3);
         // 3 for 1, 1 for 2, 2 for 3: only in this direction.
         x.rate(3, 1, 2, 1);
@@ -271,6 +275,17 @@ public final class FakesAndMoniesTest {
         CHECK.due("30 paid", x.stolen(), 1);
         x.pay(0, 1, 47);
         CHECK.due("30 paid", x.stolen(), 1);
+        // What went with another market does not count.
+        x = Check.market("L11T5R90T5R90T5R91");
+        for (int tooth = 0; tooth < 3; tooth++) {
+            x.should(tooth, 0);
+        }
+        CHECK.due("30 all", x.stolen(), 7);
+        x.wipe();
+        Check.tell(x, "L11T5R90");
+        x.market();
+        CHECK.due("30 gone", x.stolen(), 0);
+        CHECK.due("31 gone", x.thief(), -9);
         CHECK.due("30 no teeth", new TeethForCoins().stolen(), 0);
     }
 
@@ -300,6 +315,9 @@ public final class FakesAndMoniesTest {
         x.should(1, 99);
         x.should(2, 1);
         CHECK.due("31 too little does not count", x.thief(), 0);
+        x = Check.market("L11T5R23");
+        x.should(0, 1);
+        CHECK.due("31 by one", x.thief(), 3);
         CHECK.due("31 no teeth", new TeethForCoins().thief(), -9);
     }
 }

@@ -205,6 +205,17 @@ public final class MarketTest {
         for (int what = 0; what < due.length; what++) {
             CHECK.due("6 about " + what, x.about(what), due[what]);
         }
+        TeethForCoins fewer = Check.market("L11B5L00B5L00B5L00G111G112");
+        fewer.wipe();
+        Check.tell(fewer, "L11B5L00G113");
+        fewer.market();
+        CHECK.due("6 teeth of another market are gone", fewer.about(0), 1);
+        CHECK.due("6 fakes of another market are gone", fewer.about(6), 1);
+        CHECK.due("8 goods of another market are gone", fewer.good(1, 0), -1);
+        CHECK.due("9 teeth of another market are gone", fewer.purse(0), 50);
+        CHECK.due("12 teeth of another market are gone", fewer.fewest(0, 1, 100), -9);
+        CHECK.due("18 goods of another market are gone", fewer.spent(0, false), 3);
+        CHECK.due("23 teeth of another market are gone", fewer.inflated(0, 50), 22);
         CHECK.due("6 pay nothing", x.pay(0, 1, 0), 0);
         CHECK.due("6 bargains", x.about(4), 1);
         CHECK.due("6 BAD", x.about(7), -2);

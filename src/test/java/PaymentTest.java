@@ -88,6 +88,9 @@ public final class PaymentTest {
         // 40 - 20 pays 2 with change 8 or 16; 30 - 10 pays 4 with change 1, but what is paid goes first.
         x = Check.market("L01T1R01T4R00T3R00T2R01T2R01");
         payment(x, 20, 2, 2, 8);
+        // 40 - 20 pays 4 with change 2; 30 - 10 pays 8 with change 1.
+        x = Check.market("L01T1R01T2R01T4R00T3R00");
+        payment(x, 20, 2, 4, 2);
         // 50 - 20, each to be had twice.
         x = Check.market("L01T2R01T2R01T5R00T5R00");
         payment(x, 30, 2, 4, 1);

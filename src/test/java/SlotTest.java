@@ -53,8 +53,8 @@ public final class SlotTest {
         x.keep(1);
         x.undo();
         x.undo();
-        x.pay(1, 3, 60);
         x.handle(0);
+        x.pay(1, 3, 60);
         x.pay(0, 3, 50);
         x.pay(3, 0, 110);
         CHECK.due("33 how many teeth", x.again(1), 2);
