@@ -60,6 +60,9 @@ public final class BoundsOfFakesTest {
         doubt(5, 5, 10, 1, 1, 1, 3);
         doubt(5, 5, 10, 1, 0, 1, 1);
         doubt(5, 5, 11, 1, 1, -2, -2);
+        // The least chance of all that can be still is one.
+        doubt(1, 1, 0, 1, 1, 1, 1);
+        doubt(9, 1, 9, 1, 1, 1, 2);
     }
 
     /** "of n thumbs (1 .. 6) k (0 .. n) say so" */
@@ -216,6 +219,8 @@ public final class BoundsOfFakesTest {
 
     /** "two to four MONIES, changed one for the next, the last for the first" */
     private static void ringOfTwoToFour() {
+        CHECK.due("28 at first, asked alone", any().ringAt(1), 1);
+        CHECK.due("28 at first, asked alone", any().ringAt(2), -9);
         ring("at first", any(), 1, 1, 0, 1);
         TeethForCoins x = losing();
         ring("all lose", x, 1, 81, 0, 1);
@@ -241,8 +246,8 @@ public final class BoundsOfFakesTest {
     /** "from the least on": every RING of three and of four there is, told from each of its MONIES. */
     private static void ringFromTheLeastOn() {
         int[][] rings = {{0, 1}, {0, 2}, {0, 3}, {1, 2}, {1, 3}, {2, 3}, {0, 1, 2}, {0, 2, 1}, {0, 1, 3}, {0, 3, 1},
-            {0, 2, 3}, {0, 3, 2}, {1, 2, 3}, {1, 3, 2}, {0, 1, 2, 3}, {0, 1, 3, 2}, {0, 2, 1, 3}, {0, 2, 3, 1}, {0, 3, 1, 2},
-            {0, 3, 2, 1}};
+            {0, 2, 3}, {0, 3, 2}, {1, 2, 3}, {1, 3, 2}, {0, 1, 2, 3}, {0, 1, 3, 2}, {0, 2, 1, 3}, {0, 2, 3, 1},
+            {0, 3, 1, 2}, {0, 3, 2, 1}};
         for (int[] monies : rings) {
             TeethForCoins x = losing();
             long gain = 1;
@@ -337,8 +342,8 @@ public final class BoundsOfFakesTest {
     /** "should be (0 .. 99)"; "BAD: w (0 .. 99)" */
     private static void shouldZeroTo99() {
         TeethForCoins x = Check.market("L11T5R30T4L92");
-        int[][] wDue = {{0, 3}, {99, 0}, {-1, -2}, {100, -2}, {Integer.MIN_VALUE, -2}, {Integer.MAX_VALUE, -2}, {1, 99},
-            {98, 1}, {3, 98}};
+        int[][] wDue = {{0, 3}, {99, 0}, {-1, -2}, {100, -2}, {Integer.MIN_VALUE, -2}, {Integer.MAX_VALUE, -2},
+            {1, 99}, {98, 1}, {3, 98}};
         for (int[] of : wDue) {
             CHECK.due("29 w is " + of[0], x.should(0, of[0]), of[1]);
         }

@@ -19,6 +19,7 @@ public final class BoundsOfMarketTest {
         teethAndGoodsAtMost();
         marketOfALoneLaw();
         marketForgetsBargainsAlone();
+        marketLeavesNoTeeth();
         worthAtLeastZero();
         wearAtMost99();
         sizeOneIsNotBitten();
@@ -267,13 +268,45 @@ public final class BoundsOfMarketTest {
         CHECK.due("5 THE TEXT stays", x.wipe(), 8);
     }
 
+    /** FAKES, WEAR and TRACES of TEETH that are no more do not count, nor come with those that come in their stead. */
+    private static void marketLeavesNoTeeth() {
+        TeethForCoins x = Check.market("L01B5L90T5L90B6L91B7L93");
+        for (int tooth = 0; tooth < 4; tooth++) {
+            x.should(tooth, 0);
+        }
+        x.pay(3, 2, 70);
+        CHECK.due("6 three FAKES, the first and the last too", x.about(6), 3);
+        CHECK.due("30 all", x.stolen(), 15);
+        x.wipe();
+        Check.tell(x, "L01B5L00T5L00");
+        x.market();
+        CHECK.due("6 one FAKE", x.about(6), 1);
+        CHECK.due("30 none", x.stolen(), 0);
+        CHECK.due("31 none", x.thief(), -9);
+        CHECK.due("9 two", x.purse(0), 100);
+        CHECK.due("9 none", x.purse(1), 0);
+        CHECK.due("16 none", x.tooMuch(2, 1, true), -9);
+        x.washed(2, 1L);
+        for (int tooth = 2; tooth < 4; tooth++) {
+            CHECK.due("20 without WEAR", x.tooth(tooth, 2), 0);
+            CHECK.due("20 no FAKE", x.tooth(tooth, 5), 0);
+            CHECK.due("20 no older TRACE", x.trace(tooth, 1), -9);
+            CHECK.due("20 no older WEAR that should be", x.should(tooth, 0), 0);
+        }
+        CHECK.due("6 one FAKE", x.about(6), 1);
+        CHECK.due("30 none", x.stolen(), 0);
+        CHECK.due("6 the first alone", Check.market("L11B5L00T5L00").about(6), 1);
+        CHECK.due("6 the last alone", Check.market("L11T5L00B5L00").about(6), 1);
+        CHECK.due("6 all ten", Check.market("L11" + "B5L00".repeat(10)).about(6), 10);
+    }
+
     /** "10 times its size, less LOSS times its WEAR (0 at least); of a left one RATE times as much." */
     private static void worthAtLeastZero() {
         int[][] sizeWearLossRateWorth = {{1, 9, 1, 9, 1}, {1, 5, 2, 9, 0}, {1, 4, 2, 9, 2}, {1, 6, 2, 9, 0},
             {1, 9, 9, 9, 0}, {9, 0, 9, 9, 90}, {9, 9, 9, 1, 9}, {8, 9, 9, 5, 0}, {8, 8, 9, 5, 8}, {1, 9, 0, 3, 10}};
         for (int[] of : sizeWearLossRateWorth) {
-            TeethForCoins x = Check.market("L" + of[2] + of[3] + "T" + of[0] + "R" + of[1] + "0B" + of[0] + "L" + of[1] + "1"
-                + "T" + of[0] + "L" + of[1] + "2");
+            TeethForCoins x = Check.market("L" + of[2] + of[3] + "T" + of[0] + "R" + of[1] + "0"
+                + "B" + of[0] + "L" + of[1] + "1" + "T" + of[0] + "L" + of[1] + "2");
             CHECK.due("7 a right one", x.tooth(0, 4), of[4]);
             CHECK.due("7 a left FAKE", x.tooth(1, 4), of[4] * of[3]);
             CHECK.due("7 a left one", x.tooth(2, 4), of[4] * of[3]);

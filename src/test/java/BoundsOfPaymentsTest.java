@@ -7,6 +7,7 @@ public final class BoundsOfPaymentsTest {
 
     public static void main(String[] args) {
         peopleAreTwo();
+        askedAlone();
         priceZero();
         priceOne();
         price999();
@@ -59,6 +60,30 @@ public final class BoundsOfPaymentsTest {
             CHECK.due("16 of " + person, x.tooMuch(person, 1, true), refusal < 0 ? refusal : 1 << person);
             CHECK.due("18 of " + person, x.spent(person, false), refusal);
             CHECK.due("18 of " + person, x.spent(person, true), refusal);
+        }
+    }
+
+    /** Each call tells of what it is asked, whatever was asked ahead of it. */
+    private static void askedAlone() {
+        String market = "L01T5R00T3R01T2R12G309G107";
+        CHECK.due("12 alone", Check.market(market).fewest(0, 1, 20), 2);
+        CHECK.due("13 alone", Check.market(market).paid(0, 1, 20, false), 1);
+        CHECK.due("13 alone", Check.market(market).paid(0, 1, 20, true), 2);
+        CHECK.due("14 alone", Check.market(market).pay(0, 1, 20), 2);
+        CHECK.due("16 alone", Check.market(market).tooMuch(0, 20, true), 1);
+        CHECK.due("18 alone", Check.market(market).spent(0, true), 3);
+        TeethForCoins x = Check.market(market);
+        int[] spent = {16, 9, 7, 0};
+        for (int i = 0; i < 8; i++) {
+            for (int person = 0; person < 4; person++) {
+                CHECK.due("18 one behind the other", x.spent(person, false), spent[person]);
+            }
+            CHECK.due("12 there is none", x.fewest(3, 0, 20), -9);
+            CHECK.due("13 there is one", x.paid(0, 1, 20, true), 2);
+            CHECK.due("13 there is none", x.paid(0, 1, 10, false), -9);
+            CHECK.due("16 there is one", x.tooMuch(2, 20, false), 20);
+            CHECK.due("16 there is none", x.tooMuch(3, 1, false), -9);
+            CHECK.due("17 20 and 50", x.sums(0, 1, 999), 2);
         }
     }
 
@@ -153,6 +178,8 @@ public final class BoundsOfPaymentsTest {
     private static void paidBeforeChange() {
         // 30 - 10 is 1 and 8; 40 - 20 is 2 and 4.
         payment("the least paid, though more change", Check.market("L01T3R00T4R00T2R01T1R01"), 20, 2, 1, 8);
+        // 30 - 10 is 1 and 4; 40 - 20 is 8 and 2.
+        payment("the least paid, though less change", Check.market("L01T3R00T2R01T1R01T4R00"), 20, 2, 1, 4);
         // 40 - 20 with either of two 20.
         payment("the least change", Check.market("L01T4R00T9R01T2R01T2R01"), 20, 2, 1, 4);
         // Either of two 40, either of two 20, told late and early.
@@ -395,7 +422,8 @@ public final class BoundsOfPaymentsTest {
         CHECK.due("17 50", x.sums(0, 3, 999), 1);
         CHECK.due("17 none", x.sums(3, 0, 999), 0);
         CHECK.due("17 like TEETH count once", Check.market("L01" + "T1R00".repeat(10)).sums(0, 1, 999), 10);
-        CHECK.due("17 like TEETH count once", Check.market("L01" + "T1R00".repeat(5) + "T1R01".repeat(5)).sums(0, 1, 999), 5);
+        String five = "L01" + "T1R00".repeat(5) + "T1R01".repeat(5);
+        CHECK.due("17 like TEETH count once", Check.market(five).sums(0, 1, 999), 5);
     }
 
     private static void spent(String what, TeethForCoins x, int use, int set) {

@@ -56,6 +56,7 @@ public final class BoundsOfSlotsTest {
         TeethForCoins x = new TeethForCoins();
         CHECK.due("32 none", x.keep(0), 0);
         x.washed(10, 1L);
+        x.handle(0);
         x.handle(3);
         CHECK.due("33 none", x.again(0), 0);
         CHECK.due("33 none", x.about(0), 0);

@@ -36,8 +36,9 @@ public final class BoundsOfTeethTest {
 
     /** "of its upper 31 bits: by 9 what is left, and 1: its size; what goes in, by 2: left over 0 a left one" */
     private static void seedsByTheirUpperBits() {
-        long[][] upperSizeLeft = {{0, 1, 1}, {1, 2, 1}, {8, 9, 1}, {9, 1, 0}, {17, 9, 0}, {18, 1, 1}, {26, 9, 1}, {27, 1, 0},
-            {Integer.MAX_VALUE, 2, 1}, {Integer.MAX_VALUE - 1L, 1, 1}, {Integer.MAX_VALUE - 2L, 9, 0}, {1L << 30, 2, 0}};
+        long most = (1L << 31) - 1;
+        long[][] upperSizeLeft = {{0, 1, 1}, {1, 2, 1}, {8, 9, 1}, {9, 1, 0}, {17, 9, 0}, {18, 1, 1}, {26, 9, 1},
+            {27, 1, 0}, {most, 2, 1}, {most - 1, 1, 1}, {most - 2, 9, 0}, {1L << 30, 2, 0}};
         for (long[] of : upperSizeLeft) {
             for (long lower : new long[] {0, 1, 1L << 32, (1L << 33) - 1}) {
                 TeethForCoins x = new TeethForCoins();
@@ -159,7 +160,8 @@ public final class BoundsOfTeethTest {
 
     /** "how often a TOOTH can be HANDLED so that it is worth m or more still"; "NONE: it is not now" */
     private static void lifeUntilWorthIsLess() {
-        for (String market : new String[] {"L11T9R00", "L32T4L10", "L99T9L90", "L92B1L10", "L51T3R60", "L13T1L90", "L23T1R70"}) {
+        String[] markets = {"L11T9R00", "L32T4L10", "L99T9L90", "L92B1L10", "L51T3R60", "L13T1L90", "L23T1R70"};
+        for (String market : markets) {
             TeethForCoins asked = Check.market(market);
             for (int m = 1; m <= 130; m++) {
                 TeethForCoins x = Check.market(market);
