@@ -1,4 +1,3 @@
-import java.io.IOException;
 import java.lang.reflect.Method;
 import java.net.URL;
 import java.net.URLClassLoader;
@@ -11,7 +10,6 @@ import java.util.TreeSet;
 import java.util.function.LongConsumer;
 import java.util.regex.Matcher;
 import java.util.regex.Pattern;
-import javax.tools.ToolProvider;
 
 /** The calls of README.md, compiled as they stand there and run from the first to the last, with the answers told. */
 public final class ReadmeTest {
@@ -25,7 +23,7 @@ public final class ReadmeTest {
     private static final List<Long> DUE = new ArrayList<>();
     private static final List<Long> GOT = new ArrayList<>();
 
-    public static void main(String[] args) throws IOException, ReflectiveOperationException {
+    public static void main(String[] args) throws Exception {
         Set<String> called = new TreeSet<>();
         StringBuilder body = new StringBuilder();
         Matcher blocks = BLOCK.matcher(Files.readString(Path.of("README.md")));
@@ -74,14 +72,14 @@ public final class ReadmeTest {
         return value;
     }
 
-    private static void run(String program) throws IOException, ReflectiveOperationException {
+    private static void run(String program) throws Exception {
         Path out = Files.createTempDirectory("readme");
         Path source = out.resolve("Readme.java");
         try {
             Files.writeString(source, program);
             String path = System.getProperty("java.class.path");
-            int status = ToolProvider.getSystemJavaCompiler()
-                .run(null, null, null, "-cp", path, "-d", out.toString(), source.toString());
+            int status = new ProcessBuilder("javac", "-cp", path, "-d", out.toString(), source.toString())
+                .inheritIO().start().waitFor();
             CHECK.due("README.md's calls are compiled", status, 0);
             if (status == 0) {
                 try (URLClassLoader loader = new URLClassLoader(new URL[] {out.toUri().toURL()})) {
